@@ -11,6 +11,8 @@ public final class DaysTest {
         partsAheadOfTaxes();
         taxesOnTheirDay();
         taxesOut();
+        goesBackFreeOfDebts();
+        forfeitAheadOfSecondYear();
         taxesByNumbers();
         taxesAheadOfComers();
         comersChoose();
@@ -43,7 +45,6 @@ public final class DaysTest {
         town.person(1000);
         Check.buy(town, 0, 0, 203); // 50, then 51, 51, 51
         town.money(0, -797);
-        Check.buy(town, 0, 0, 1);
         int[][] due = {{100, 153, 100, 153}, {101, 102, 200, 102}, {200, 102, 200, 102},
             {201, 51, 300, 51}, {300, 51, 300, 51}, {301, 0, PaperTown.NONE, 0}};
         for (int[] row : due) {
@@ -59,7 +60,6 @@ public final class DaysTest {
         PaperTown odd = Check.town("b0 0 1 1 1");
         odd.person(1000);
         Check.buy(odd, 0, 0, 11); // 2, then 3, 3, 3
-        odd.close(0);
         Check.until(odd, 101);
         CHECK.due("thirds", odd.lot(0, 5), 6);
         PaperTown left = Check.town("b0 0 1 1 1");
@@ -105,8 +105,6 @@ public final class DaysTest {
         PaperTown town = Check.town("b0 0 1 1 2");
         town.person(20);
         Check.buy(town, 0, 0, 40);
-        Check.until(town, 101);
-        town.rate(0);
         Check.until(town, 230);
         CHECK.due("on the 30th day", town.lot(0, 1), 0);
         CHECK.due("not yet", town.count(6), 0);
@@ -206,74 +204,51 @@ public final class DaysTest {
         town.money(0, 1);
         Check.until(town, 1460 + 365);
         CHECK.due("the company pays none", town.count(9), 1);
-        PaperTown debts = farTown(1);
-        Check.until(debts, 300);
-        Check.buy(debts, 0, 0, 7); // 1, then 2, 2, 2
-        debts.rate(100);
-        debts.money(0, 6);
-        Check.until(debts, 601);
-        CHECK.due("parts paid", debts.lot(0, 5), 0);
-        Check.until(debts, 730);
-        CHECK.due("taken with parts paid", debts.lot(0, 1), PaperTown.NONE);
-        debtsForgotten();
     }
 
-    private static void debtsForgotten() {
-        PaperTown town = farTown(100);
-        town.rate(100);
-        Check.until(town, 364);
-        Check.buy(town, 0, 0, 396); // 99, then 99, 99, 99
-        town.money(0, 4);
-        Check.until(town, 365);
-        CHECK.due("first year out", town.lot(0, 7), 1);
-        town.money(0, 94);
-        Check.until(town, 465);
-        town.pass(0, 0);
-        CHECK.due("first part paid", town.lot(0, 5), 198);
-        town.money(0, 99);
-        Check.until(town, 565);
-        CHECK.due("second part paid", town.lot(0, 5), 99);
-        Check.until(town, 695);
-        CHECK.due("forfeit on 694", town.lot(0, 9), 694);
-        CHECK.due("years are forgotten too", town.lot(0, 7), 0);
-        // Bought late in the year before, so that parts are still owed when it is taken.
-        PaperTown taken = farTown(0);
-        taken.rate(100);
-        Check.until(taken, 364);
-        Check.buy(taken, 0, 0, 3); // 0, then 1, 1, 1
-        Check.until(taken, 460);
-        taken.money(0, 2);
-        taken.rate(100);
-        Check.until(taken, 665);
-        CHECK.due("one part owed", taken.lot(0, 5), 1);
-        Check.until(taken, 730);
-        CHECK.due("forfeit came ahead", taken.count(6), 1);
-        owedWhenTaken();
+    private static void goesBackFreeOfDebts() {
+        PaperTown forfeit = farTown(99);
+        Check.until(forfeit, 364);
+        forfeit.rate(100);
+        Check.buy(forfeit, 0, 0, 396); // 99, then 99, 99, 99
+        Check.until(forfeit, 365);
+        CHECK.due("one year out", forfeit.lot(0, 7), 1);
+        Check.until(forfeit, 495);
+        CHECK.due("forfeit", forfeit.lot(0, 9), 494);
+        CHECK.due("nothing is owed", forfeit.lot(0, 5), 0);
+        CHECK.due("no year either", forfeit.lot(0, 7), 0);
+        PaperTown gift = Check.town("g19 15 1 1 b0 0 1 1 1");
+        gift.person(0);
+        gift.person(0);
+        Check.buy(gift, 1, 0, 1);
+        gift.money(0, 1);
+        gift.give(0, 0, 400);
+        gift.rate(4);
+        Check.until(gift, 365);
+        CHECK.due("a gift is taxed", gift.lot(0, 7), 1);
+        Check.until(gift, 401);
+        CHECK.due("it goes back", gift.lot(0, 1), PaperTown.NONE);
+        gift.give(0, 1, 9999);
+        Check.until(gift, 730);
+        CHECK.due("the next owner's first year", gift.lot(0, 1), 1);
+        Check.until(gift, 1095);
+        CHECK.due("a gift is taken for taxes", gift.lot(0, 1), PaperTown.NONE);
+        CHECK.due("and may be given again", gift.give(0, 0, 9999), 1);
     }
 
-    private static void owedWhenTaken() {
+    private static void forfeitAheadOfSecondYear() {
         PaperTown town = farTown(0);
-        Check.buy(town, 0, 0, 3);
-        town.money(0, 3);
         town.rate(100);
-        Check.until(town, 365);
-        CHECK.due("paid in full, one out", town.lot(0, 7), 1);
-        PaperTown again = Check.town("b19 15 1 1 1 g0 0 1 1");
-        again.person(0);
-        again.person(0);
-        again.rate(100);
-        again.give(1, 0, 9999);
-        Check.until(again, 640);
-        Check.buy(again, 0, 1, 3);
-        again.pass(0, 0);
-        Check.until(again, 730);
-        CHECK.due("the gift is taken", again.lot(1, 1), PaperTown.NONE);
-        CHECK.due("the lot is one year out", again.lot(0, 7), 1);
-        CHECK.due("the gift is counted", again.count(7), 1);
-        again.money(0, 3);
-        Check.until(again, 941);
-        again.money(0, -1 * again.told(0, 0));
-        CHECK.due("the gift can be given again", again.give(1, 1, 9999), 1);
+        Check.until(town, 360);
+        Check.buy(town, 0, 0, 3); // parts due on 460, 560, 660
+        town.money(0, 2);
+        Check.until(town, 561);
+        CHECK.due("the last part is owed", town.lot(0, 5), 1);
+        CHECK.due("one year out", town.lot(0, 7), 1);
+        Check.until(town, 691);
+        CHECK.due("forfeit on the 30th day", town.count(6), 1);
+        Check.until(town, 730);
+        CHECK.due("not taken for taxes too", town.count(7), 0);
     }
 
     private static void taxesByNumbers() {
