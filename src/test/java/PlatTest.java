@@ -12,6 +12,7 @@ public final class PlatTest {
         vacateToOneSide();
         vacateToTwoSides();
         vacateOwnCellsOnly();
+        vacateAtTheCorners();
         vacateRefuses();
         haltMoves();
         CHECK.end();
@@ -160,6 +161,16 @@ public final class PlatTest {
         PaperTown rows = Check.town("b0 0 1 1 5 s0 1 0 5 s0 2 0 5");
         CHECK.due("beside", rows.vacate(0), 5);
         CHECK.due("beside what was vacated", rows.vacate(1), 0);
+    }
+
+    private static void vacateAtTheCorners() {
+        PaperTown town = Check.town("s0 0 0 1 b1 0 1 1 1 s19 15 1 1 b19 14 1 1 1");
+        CHECK.due("the first cell", town.vacate(0), 1);
+        CHECK.due("it is vacated", town.cell(0, 0), 200);
+        CHECK.due("the last cell", town.vacate(1), 1);
+        CHECK.due("that one too", town.cell(19, 15), 201);
+        CHECK.due("first lot", town.lot(0, 0), 4);
+        CHECK.due("second lot", town.lot(1, 0), 4);
     }
 
     private static void vacateRefuses() {

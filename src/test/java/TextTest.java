@@ -228,6 +228,9 @@ public final class TextTest {
         CHECK.due("draw '" + text + "'", town.draw(), -10 - fault);
         CHECK.due("place '" + text + "'", town.place(), at);
         CHECK.due("place again '" + text + "'", town.place(), at);
+        for (int c = 0; c < 320; c++) {
+            CHECK.due("cell " + c + " '" + text + "'", town.cell(c % 20, c / 20), PaperTown.NONE);
+        }
         CHECK.due("lots '" + text + "'", town.count(0), 0);
         CHECK.due("streets '" + text + "'", town.count(1), 0);
         CHECK.due("bytes '" + text + "'", town.count(10), 0);
