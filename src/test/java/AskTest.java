@@ -63,7 +63,12 @@ public final class AskTest {
     }
 
     private static PaperTown settled() {
-        PaperTown town = Check.town("b0 0 1 1 4 g10 10 1 1 s0 1 0 3");
+        return Check.toldTown(AskTest::settle);
+    }
+
+    private static void settle(PaperTown town) {
+        Check.type(town, "b0 0 1 1 4 g10 10 1 1 s0 1 0 3");
+        town.draw();
         town.person(1000);
         town.person(201);
         town.person(100);
@@ -75,7 +80,6 @@ public final class AskTest {
         Check.until(town, 365);
         town.money(0, 1000 - town.told(0, 0));
         town.money(1, 201 - town.told(1, 0));
-        return town;
     }
 
     private static void toldOfPersons() {
@@ -147,11 +151,12 @@ public final class AskTest {
     }
 
     private static void askingChangesNothing() {
-        PaperTown town = settled();
-        String before = Check.state(town);
-        town.bond(100, 0);
-        town.bond(100, 1);
-        town.title(0, 100);
-        CHECK.due("the same", Check.state(town).equals(before) ? 1 : 0, 1);
+        Check.Story asking = town -> {
+            town.bond(100, 0);
+            town.bond(100, 1);
+            town.title(0, 100);
+        };
+        boolean same = Check.state(AskTest::settle).equals(Check.state(AskTest::settle, asking));
+        CHECK.due("the same", same ? 1 : 0, 1);
     }
 }

@@ -50,27 +50,59 @@ final class Check {
         town.close(lot);
     }
 
-    /** All that can be asked of a town without changing it. */
-    static String state(PaperTown town) {
+    /** Calls that make a town what it is; told again, they make such a town again. */
+    interface Story {
+        void tell(PaperTown town);
+    }
+
+    static PaperTown toldTown(Story... chapters) {
+        PaperTown town = new PaperTown();
+        for (Story chapter : chapters) {
+            chapter.tell(town);
+        }
+        return town;
+    }
+
+    /**
+     * All that can be asked of a town without changing it. Each part is asked of a town of its own:
+     * what an object answers behind its 512th call is free.
+     */
+    static String state(Story... chapters) {
         StringBuilder s = new StringBuilder();
+        PaperTown town = toldTown(chapters);
         for (int what = 0; what <= 13; what++) {
             s.append(town.count(what)).append(' ');
         }
         s.append(town.place()).append('\n');
-        for (int l = 0; l < town.count(0); l++) {
-            for (int what = 0; what <= 9; what++) {
-                s.append(town.lot(l, what)).append(' ');
-            }
-            s.append(town.title(l, town.count(3))).append('\n');
-        }
+        int lots = town.count(0);
         for (int p = 0; p < town.count(2); p++) {
             for (int what = 0; what <= 3; what++) {
                 s.append(town.told(p, what)).append(' ');
             }
         }
-        for (int c = 0; c < 320; c++) {
-            s.append(town.cell(c % 20, c / 20)).append(' ');
+        stateOfCells(s, toldTown(chapters));
+        for (int l = 0; l < lots; l += 20) {
+            stateOfLots(s, toldTown(chapters), l, Math.min(lots, l + 20));
         }
         return s.toString();
+    }
+
+    private static void stateOfCells(StringBuilder s, PaperTown town) {
+        for (int c = 0; c < 320; c++) {
+            s.append(town.cell(c % 20, c / 20)).append(c % 20 == 19 ? '\n' : ' ');
+        }
+    }
+
+    private static void stateOfLots(StringBuilder s, PaperTown town, int from, int to) {
+        int now = town.count(3);
+        for (int l = from; l < to; l++) {
+            for (int what = 0; what <= 9; what++) {
+                s.append(town.lot(l, what)).append(' ');
+            }
+            for (int day : new int[] {0, now / 4, now / 2, now - 1, now}) {
+                s.append(town.title(l, day)).append(' ');
+            }
+            s.append('\n');
+        }
     }
 }

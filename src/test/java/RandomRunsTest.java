@@ -1,8 +1,11 @@
 import java.util.Random;
 
-/** Long runs of drawn calls (the seeds are fixed), each answer held against the model's. */
+/**
+ * Long runs of drawn calls (the seeds are fixed), each answer held against the model's. A run ends
+ * with its 512th call, the last two hundred of which ask all over the town.
+ */
 public final class RandomRunsTest {
-    private static final int RUNS = 400, CALLS = 512;
+    private static final int RUNS = 3000, CALLS = 512, ASKED_LAST = 200, MOST_OF_A_STEP = 27;
     private static final String[] ORDERS = {"b0 0 1 1 9", "b0 2 2 2 5", "b9 0 1 1 9", "s0 1 0 20", "s10 0 1 16",
         "g12 3 2 2", "g12 5 3 1", "b0 4 1 1 9", "s0 5 0 9", "b0 6 3 2 3", "s0 8 0 20", "g0 9 9 2", "b11 9 1 2 8",
         "s5 0 1 5", "b14 12 2 2 3", "g11 12 1 1", "g12 12 1 1"};
@@ -12,7 +15,7 @@ public final class RandomRunsTest {
     private final int run;
     private final PaperTown town = new PaperTown();
     private final Model model = new Model();
-    private String unchanged;
+    private int calls;
 
     private RandomRunsTest(int run) {
         this.run = run;
@@ -21,24 +24,21 @@ public final class RandomRunsTest {
 
     public static void main(String[] args) {
         for (int run = 0; run < RUNS; run++) {
-            new RandomRunsTest(run).calls();
+            new RandomRunsTest(run).go();
         }
         CHECK.end();
     }
 
-    private void calls() {
+    private void go() {
         for (int n = random.nextInt(3); n > 0; n--) {
             typeOrders(1 + random.nextInt(6));
         }
-        for (int i = 0; i < CALLS; i++) {
-            boolean watched = random.nextInt(8) == 0;
-            unchanged = watched ? Check.state(town) : null;
+        while (calls + MOST_OF_A_STEP < CALLS - ASKED_LAST) {
             call(random.nextInt(100));
-            if (i % 64 == 0) {
-                compareAll();
-            }
         }
-        compareAll();
+        while (calls < CALLS) {
+            askAnything(random.nextInt(5));
+        }
     }
 
     private void typeOrders(int n) {
@@ -146,34 +146,29 @@ public final class RandomRunsTest {
         return random.nextInt(15) == 0 ? random.nextInt(40) - 10 : random.nextInt(1 + model.count(2));
     }
 
-    private void compareAll() {
-        for (int what = -1; what <= 14; what++) {
-            due("count " + what, town.count(what), model.count(what));
-        }
-        for (int l = 0; l <= model.count(0); l++) {
-            for (int what = -1; what <= 10; what++) {
-                due("lot " + l + ", " + what, town.lot(l, what), model.lot(l, what));
-            }
-            for (int day = model.count(3) + 1; day >= 0; day -= 1 + random.nextInt(40)) {
-                due("title " + l + ", " + day, town.title(l, day), model.title(l, day));
-            }
-        }
-        for (int p = 0; p <= model.count(2); p++) {
-            for (int what = -1; what <= 4; what++) {
-                due("told " + p + ", " + what, town.told(p, what), model.told(p, what));
-            }
-        }
-        for (int c = 0; c < 320; c++) {
+    private void askAnything(int kind) {
+        int l = someLot();
+        int p = somePerson();
+        if (kind == 0) {
+            int c = random.nextInt(320);
             due("cell " + c, town.cell(c % 20, c / 20), model.cell(c % 20, c / 20));
+        } else if (kind == 1) {
+            int what = random.nextInt(10);
+            due("lot " + l + ", " + what, town.lot(l, what), model.lot(l, what));
+        } else if (kind == 2) {
+            int day = random.nextInt(1 + model.count(3));
+            due("title " + l + ", " + day, town.title(l, day), model.title(l, day));
+        } else if (kind == 3) {
+            int what = random.nextInt(4);
+            due("told " + p + ", " + what, town.told(p, what), model.told(p, what));
+        } else {
+            int what = random.nextInt(14);
+            due("count " + what, town.count(what), model.count(what));
         }
     }
 
     private void due(String call, int got, int want) {
+        calls++;
         CHECK.due("run " + run + ": " + call, got, want);
-        if (unchanged != null && got <= PaperTown.UNKNOWN) {
-            boolean same = unchanged.equals(Check.state(town));
-            CHECK.due("run " + run + ": " + call + " refused, unchanged", same ? 1 : 0, 1);
-        }
-        unchanged = null;
     }
 }
