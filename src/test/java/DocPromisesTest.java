@@ -228,6 +228,7 @@ public final class DocPromisesTest {
         due("it would be below", town.money(0, -10), OUTSIDE);
         due("just not above", town.money(0, 999991), 1000000);
         due("just not below", town.money(0, -1000000), 0);
+        due("the most more", town.money(0, 1000000), 1000000);
     }
 
     private static PaperTown market() {

@@ -304,6 +304,7 @@ public final class DocTermsTest {
         due("no street", town.cell(6, 6), NONE);
         due("lots", town.count(0), 2);
         due("streets", town.count(1), 2);
+        faultLeavesAllAsItWas();
         says("LOTS, STREETS are numbered as they are drawn.");
         Check.type(town, "s6 6 0 2 b7 7 1 1 2 g5 5 1 1");
         due("three more", town.draw(), 5);
@@ -316,6 +317,27 @@ public final class DocTermsTest {
         due("six cells", wide.lot(0, 0), 12);
         wide.vacate(0);
         due("and two", wide.lot(0, 0), 16);
+    }
+
+    private static void faultLeavesAllAsItWas() {
+        PaperTown empty = Check.town("g0 0 1 1 s19 15 0 1 x");
+        due("no lot at the first cell", empty.cell(0, 0), NONE);
+        due("no street at the last", empty.cell(19, 15), NONE);
+        due("no lots", empty.count(0), 0);
+        due("no streets", empty.count(1), 0);
+        PaperTown town = Check.town("s0 0 0 2 s0 1 0 2 g0 2 1 1");
+        town.vacate(0);
+        Check.type(town, "g9 9 1 1 s0 3 0 1 x");
+        due("a fault behind them", town.draw(), -11);
+        due("a vacated street", town.cell(0, 0), 200);
+        due("a street", town.cell(1, 1), 101);
+        due("a lot", town.cell(0, 2), 0);
+        due("no new lot", town.cell(9, 9), NONE);
+        due("no new street", town.cell(0, 3), NONE);
+        PaperTown street = Check.town("s0 0 0 2");
+        Check.type(street, "g9 9 1 1 x");
+        due("a fault behind a street", street.draw(), -11);
+        due("the first street", street.cell(1, 0), 100);
     }
 
     // ---- 2 days, auctions, parts
@@ -355,8 +377,10 @@ public final class DocTermsTest {
             town.person(money);
         }
         due("one", town.bid(0, 0, 40), 1);
-        due("another's", town.bid(0, 1, 20), 2);
-        due("a later one", town.bid(0, 0, 8), 2);
+        due("another's", town.bid(0, 1, 24), 2);
+        due("a later one", town.bid(0, 0, 44), 2);
+        due("at once again", town.bid(0, 0, 8), 2);
+        due("the other's later one", town.bid(0, 1, 20), 2);
         due("no gift", town.bid(4, 0, 8), NOT);
         due("the one ahead is gone", town.close(0), 1);
         due("a person's", town.bid(0, 0, 8), NOT);
@@ -464,15 +488,26 @@ public final class DocTermsTest {
         due("nobody lives there", town.lot(0, 3), 280);
         Check.until(town, 365);
         due("two beside, one at the corner", town.lot(0, 3), 280 + 30);
+        town.give(0, 0, 9999);
+        town.pass(1, 1);
+        Check.until(town, 730);
+        due("one of them lives on the first now", town.lot(0, 4), 0);
+        due("beside the first", town.lot(1, 3), 20 + 66 + 15);
+        due("at its corner", town.lot(3, 3), 20 + 66);
+        due("one is left beside it", town.lot(0, 3), 280 + 15);
         says("and 30 if a STREET that is not vacated has a CELL beside one of its CELLS.");
-        Check.type(town, "s7 4 1 3 s5 4 0 2 s4 3 0 1");
-        town.draw();
-        due("two streets", town.lot(0, 3), 310 + 30);
-        due("two beside another lot", town.lot(3, 3), 20 + 66 + 30);
-        town.vacate(0);
-        due("one is vacated, with two cells beside", town.lot(0, 3), 310 + 40 + 30);
-        town.vacate(1);
-        due("both are, three halves more came", town.lot(0, 3), 310 + 40 + 30);
+        for (String street : new String[] {"s6 4 0 1", "s6 7 0 1", "s4 6 0 1", "s7 6 0 1", "s0 4 0 20", "s4 0 1 9"}) {
+            due("beside: " + street, Check.town("g5 5 2 2 " + street).lot(0, 3), 98 + 30);
+        }
+        for (String street : new String[] {"s4 4 0 1", "s7 7 0 1", "s5 3 0 2", "s5 8 0 2", "s3 5 0 1", "s8 5 0 1"}) {
+            due("not beside: " + street, Check.town("g5 5 2 2 " + street).lot(0, 3), 98);
+        }
+        PaperTown two = Check.town("g5 5 2 2 s7 4 1 3 s5 4 0 2");
+        due("two streets", two.lot(0, 3), 98 + 30);
+        two.vacate(0);
+        due("one is vacated, with two cells beside", two.lot(0, 3), 98 + 40 + 30);
+        two.vacate(1);
+        due("both are", two.lot(0, 3), 98 + 80);
     }
 
     private void taxes() {
@@ -575,6 +610,11 @@ public final class DocTermsTest {
         due("the second", town.lot(1, 0), 3);
         due("the third", town.lot(2, 0), 2);
         due("one alone", town.lot(3, 0), 4);
+        PaperTown corner = Check.town("s0 0 0 1 g0 1 1 1 s19 15 0 1 g19 14 1 1");
+        due("the first cell", corner.vacate(0), 1);
+        due("the last cell", corner.vacate(1), 1);
+        due("both halves of the first", corner.lot(0, 0), 4);
+        due("both halves of the last", corner.lot(1, 0), 4);
         says("with none it is grass again (its place stays drawn on).");
         due("vacated", town.cell(8, 5), 200);
         Check.type(town, "g8 5 1 1");
@@ -589,20 +629,20 @@ public final class DocTermsTest {
         PaperTown town = Check.town("g0 0 1 1 g5 5 1 1");
         town.person(0);
         town.person(0);
-        town.give(0, 0, 364);
-        town.give(1, 1, 363);
+        town.give(1, 0, 364);
+        town.give(0, 1, 363);
         Check.until(town, 363);
-        due("not judged yet", town.lot(1, 1), 1);
+        due("not judged yet", town.lot(0, 1), 1);
         says("if not, it goes back (NONE);");
         town.days(1);
-        due("back", town.lot(1, 1), NONE);
+        due("back", town.lot(0, 1), NONE);
         town.days(1);
-        due("he lives there", town.lot(0, 1), 0);
+        due("he lives there", town.lot(1, 1), 0);
         says("behind that DAY there is none any more.");
-        town.pass(0, 1);
+        town.pass(1, 1);
         Check.until(town, 729);
-        due("nobody lives there", town.lot(0, 4), NONE);
-        due("it stays his", town.lot(0, 1), 1);
+        due("nobody lives there", town.lot(1, 4), NONE);
+        due("it stays his", town.lot(1, 1), 1);
     }
 
     // ---- 4 bonds, and what the interface says
